@@ -1,0 +1,126 @@
+import java.io.IOException;
+import java.lang.reflect.Constructor;
+import java.lang.reflect.Field;
+import java.lang.reflect.Method;
+import java.lang.reflect.Modifier;
+import java.nio.file.Files;
+import java.nio.file.Path;
+import java.util.ArrayList;
+import java.util.Arrays;
+import java.util.List;
+import java.util.Set;
+import java.util.TreeSet;
+import java.util.regex.Matcher;
+import java.util.regex.Pattern;
+
+/** The public face of the document, and what of LANGUAGE.md can be seen by a plain look. */
+public final class FaceTest {
+    private static final Path SOURCE = Path.of("src/main/java/PalaceYard.java");
+
+    private static final String[] FACE = {
+        "accepts(int,int)", "chain(int,int)", "cheapest(int,int)", "composition(int,int)", "debtor(int,int)", "drift(int)",
+        "fault()", "feed(int)", "goBack(int)", "goIn(int)", "goOut(int)", "hat(int,boolean)", "judge()", "keep(int)",
+        "lend(int,int,int)", "look()", "outing(int,int)", "over(int)", "owes(int,int)", "place(int,int)", "quiet(int,int)",
+        "seed(int)", "settle(int)", "soon(int)", "sue(int,int)", "tear()", "told(int)", "undo()", "week(int)",
+        "write(int,int)", "yard()", "year(int,int)"};
+
+    private static final String[] FORBIDDEN = {
+        "\\bthrow\\b", "\\btry\\b", "\\bcatch\\b", "\\bsynchronized\\b", "\\bassert\\b", "\\bpackage\\b", "->", "::", "\\w+Exact\\b",
+        "\\bprotected\\b", "\\bvar\\b", "\\bdouble\\b", "\\bfloat\\b", "static\\s*\\{", "\\bnew\\s+\\w+\\s*\\([^)]*\\)\\s*\\{",
+        "\"", "\\bObject\\b", "\\bnull\\b", "@", "\\bwhile\\b", "\\bSystem\\.(?!arraycopy)", "\\bArrays\\.(?!fill)",
+        "\\bMath\\.(?!max|min|abs)", "\\bInteger\\.(?!bitCount)", "^import (?!java\\.util\\.Arrays;)"};
+
+    public static void main(String[] args) throws IOException {
+        constants();
+        face();
+        classesInside();
+        String code = bare(Files.readString(SOURCE));
+        for (String pattern : FORBIDDEN) {
+            Matcher found = Pattern.compile(pattern, Pattern.MULTILINE).matcher(code);
+            Check.same("LANGUAGE " + pattern, found.find() ? found.group() : "", "");
+        }
+        methodLengths(code);
+        Check.end();
+    }
+
+    private static void constants() {
+        Check.due("NONE", PalaceYard.NONE, -1);
+        Check.due("UNKNOWN", PalaceYard.UNKNOWN, -1000000001);
+        Check.due("OUTSIDE", PalaceYard.OUTSIDE, -1000000002);
+        Check.due("NOT", PalaceYard.NOT, -1000000003);
+        Check.due("FULL", PalaceYard.FULL, -1000000004);
+        Set<String> seen = new TreeSet<>();
+        for (Field field : PalaceYard.class.getDeclaredFields()) {
+            if (!Modifier.isPrivate(field.getModifiers())) seen.add(field.getName());
+            if (Modifier.isStatic(field.getModifiers())) Check.due(field + " is final", Modifier.isFinal(field.getModifiers()) ? 1 : 0, 1);
+        }
+        Check.same("constants", seen.toString(), "[FULL, NONE, NOT, OUTSIDE, UNKNOWN]");
+    }
+
+    private static String form(Method method) {
+        List<String> types = new ArrayList<>();
+        for (Class<?> type : method.getParameterTypes()) types.add(type.getName());
+        return method.getName() + "(" + String.join(",", types) + ")";
+    }
+
+    private static void face() {
+        Check.due("public final class", PalaceYard.class.getModifiers(), Modifier.PUBLIC | Modifier.FINAL);
+        Set<String> open = new TreeSet<>();
+        Set<String> names = new TreeSet<>();
+        for (Method method : PalaceYard.class.getDeclaredMethods()) {
+            if (Modifier.isPrivate(method.getModifiers())) continue;
+            open.add(form(method));
+            names.add(method.getName());
+            Check.due(method + " is public alone", method.getModifiers(), Modifier.PUBLIC);
+            Check.same(method + " answers", method.getReturnType().getName(), "int");
+        }
+        Check.same("the face", open.toString(), new TreeSet<>(Arrays.asList(FACE)).toString());
+        for (Method method : PalaceYard.class.getDeclaredMethods()) {
+            if (Modifier.isPrivate(method.getModifiers())) Check.due(method + " has a name of its own", names.contains(method.getName()) ? 1 : 0, 0);
+        }
+        Constructor<?>[] made = PalaceYard.class.getDeclaredConstructors();
+        Check.due("one constructor", made.length, 1);
+        Check.due("it is public", made[0].getModifiers(), Modifier.PUBLIC);
+        Check.due("without parameters", made[0].getParameterCount(), 0);
+    }
+
+    private static void classesInside() {
+        Class<?>[] inside = PalaceYard.class.getDeclaredClasses();
+        Check.due("some twelve classes", inside.length < 12 ? 1 : 0, 1);
+        List<Class<?>> all = new ArrayList<>(Arrays.asList(inside));
+        all.add(PalaceYard.class);
+        for (Class<?> one : all) {
+            int fields = 0;
+            for (Field field : one.getDeclaredFields()) if (!Modifier.isStatic(field.getModifiers())) fields++;
+            Check.due(one + " has some twenty fields: " + fields, fields <= 20 ? 1 : 0, 1);
+            for (Method method : one.getDeclaredMethods()) {
+                Check.due(method + " takes seven at most", method.getParameterCount() <= 7 ? 1 : 0, 1);
+            }
+            if (one == PalaceYard.class) continue;
+            Check.due(one + " is static", Modifier.isStatic(one.getModifiers()) ? 1 : 0, 1);
+            Check.due(one + " is not public", Modifier.isPublic(one.getModifiers()) ? 1 : 0, 0);
+        }
+    }
+
+    /** The source without comments and what stands in quotes. */
+    private static String bare(String source) {
+        String code = Pattern.compile("/\\*.*?\\*/", Pattern.DOTALL).matcher(source).replaceAll("");
+        return code.replaceAll("//[^\n]*", "").replaceAll("'.'", "0");
+    }
+
+    private static void methodLengths(String code) {
+        String[] lines = code.split("\n");
+        int first = -1;
+        String indent = "";
+        for (int i = 0; i < lines.length; i++) {
+            Matcher head = Pattern.compile("^( {4}| {8})[^ ].*\\) \\{$").matcher(lines[i]);
+            if (first < 0 && head.find()) {
+                first = i;
+                indent = head.group(1);
+            } else if (first >= 0 && lines[i].equals(indent + "}")) {
+                Check.due("a method of " + (i - first) + " lines: " + lines[first].trim(), i - first < 60 ? 1 : 0, 1);
+                first = -1;
+            }
+        }
+    }
+}
