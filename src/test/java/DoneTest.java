@@ -217,6 +217,8 @@ public final class DoneTest {
         Check.due("15 paid it", x.debtor(3, 4), 10000);
         Check.due("15 owes nothing now", x.owes(3, 0), 0);
         Check.due("15 no more", x.sue(0, 3), NOT);
+        Check.due("14 the least", x.lend(0, 4, 1), 1);
+        Check.due("15 the least", x.sue(0, 4), 1);
     }
 
     private static void sueToGaol() {
@@ -282,6 +284,18 @@ public final class DoneTest {
         Check.due("16 arrested", x.drift(9), 3);
         Check.due("16 weeks", x.told(7), 9);
         Check.due("16 arrested in all", x.drift(60), 3);
+        PalaceYard one = Check.told("y0 1 0;c1 0;d0 1 0;");
+        for (int v = 0; v < 20; v++) {
+            seed = v;
+            one.seed(v);
+            one.drift(1);
+            draw(1);
+            if (draw(5) == 3) {
+                draw(20);
+                draw(1);
+            }
+            Check.due("16 draws of one debtor", one.seed(0), seed);
+        }
         PalaceYard empty = Check.told("y0 1 0;");
         empty.seed(9);
         Check.due("16 no debtors", empty.drift(60), 0);
@@ -294,10 +308,10 @@ public final class DoneTest {
 
     private static void driftByHand() {
         int[] did = new int[5];
-        for (int round = 0; round < 40; round++) {
+        for (int round = 0; round < 150; round++) {
             PalaceYard x = Check.told(DRIFTERS);
             PalaceYard by = Check.told(DRIFTERS);
-            seed = 53000003L * round;
+            seed = 13000003L * round;
             x.seed((int) seed);
             for (int w = 0; w < 40; w++) {
                 int what = weekByHand(by);

@@ -49,6 +49,8 @@ public final class HatsTest {
         Check.due("26 no greatest", x.over(2), NONE);
         Check.due("26 outside", x.over(3), OUTSIDE);
         Check.due("26 outside below", x.over(-1), OUTSIDE);
+        x.hat(3, false);
+        Check.due("26 none by far", x.over(0), 0);
         PalaceYard top = new PalaceYard();
         top.hat(60, true);
         Check.due("26 above the greatest", top.over(0), 0);
@@ -113,7 +115,7 @@ public final class HatsTest {
         PalaceYard x = Check.told(Check.TOWN);
         Check.due("29 nothing", x.tear(), 0);
         x.hat(10, true);
-        x.hat(11, true);
+        x.hat(50, false);
         x.write(0, 1);
         Check.due("29 both", x.tear(), 3);
         Check.due("29 no hats", x.told(18), 0);
@@ -154,6 +156,10 @@ public final class HatsTest {
         x.write(4, 0);
         x.week(1);
         Check.due("30 the first of two", x.judge(), 4);
+        x.tear();
+        x.write(4, 0);
+        x.write(3, 0);
+        Check.due("30 the first entry", x.judge(), 0);
     }
 
     private static void seed() {

@@ -136,6 +136,11 @@ public final class TriedTest {
         Check.due("21 the free count no more", x.composition(20, 1), 0);
         Check.due("21 of those who are left", x.composition(40, 1), 1);
         Check.due("21 his creditor stays", x.composition(40, 0), 7);
+        PalaceYard free = Check.told("y0 1 0;c10 0;c90 0;d0 60 0;d1 100 99;");
+        Check.due("21 too few", free.composition(10, 1), 0);
+        free.week(1);
+        free.settle(1);
+        Check.due("21 enough of those who are not free", free.composition(10, 1), 1);
         Check.due("21 outside", x.composition(101, 0), OUTSIDE);
         Check.due("21 outside below", x.composition(-1, 0), OUTSIDE);
         Check.due("21 what outside", x.composition(0, 2), OUTSIDE);
@@ -165,6 +170,9 @@ public final class TriedTest {
         PalaceYard x = Check.told(Check.RICH);
         for (int d = 0; d < 6; d++) x.goIn(d);
         x.week(10);
+        x.lend(5, 4, 1);
+        Check.due("23 the least", x.chain(4, 0), 2);
+        x.undo();
         x.lend(1, 0, 10);
         x.lend(2, 0, 10);
         x.lend(5, 0, 9);

@@ -157,6 +157,7 @@ public final class YardTest {
         x.week(1);
         x.lend(0, 3, 10);
         x.keep(0);
+        x.keep(1);
         x.week(1);
         x.hat(5, true);
         x.write(0, 0);
@@ -165,6 +166,7 @@ public final class YardTest {
         Check.due("3 again", x.yard(), 4);
         Check.same("3 all is new", Check.allOf(x), Check.allOf(Check.told(Check.TOWN)));
         Check.due("3 images are gone", x.goBack(0), NOT);
+        Check.due("3 both images are gone", x.goBack(1), NOT);
         Check.due("3 nothing can be undone", x.undo(), NOT);
         Check.due("3 the seed stays", x.seed(0), 77);
     }
