@@ -27,7 +27,7 @@ public final class DoneTest {
     }
 
     private static void week() {
-        PalaceYard x = Check.told("y10 3 1;c100 0;d0 9 30;d0 9 5;d0 8 7;d0 7 1;");
+        Counted x = Check.told("y10 3 1;c100 0;d0 9 30;d0 9 5;d0 8 7;d0 7 1;");
         x.goIn(0);
         x.goIn(1);
         Check.due("10 a week", x.week(1), 1);
@@ -49,7 +49,7 @@ public final class DoneTest {
     }
 
     private static void weekRefused() {
-        PalaceYard x = new PalaceYard();
+        Counted x = new Counted();
         Check.due("10 outside ahead of not", x.week(0), OUTSIDE);
         Check.due("10 not", x.week(60), NOT);
         x = Check.told("y0 1 0;");
@@ -66,7 +66,7 @@ public final class DoneTest {
     }
 
     private static void weekBounds() {
-        PalaceYard x = Check.told("y10 2 0;c100 0;d0 1 99;d0 1 99;");
+        Counted x = Check.told("y10 2 0;c100 0;d0 1 99;d0 1 99;");
         x.goIn(0);
         x.week(60);
         x.week(60);
@@ -79,7 +79,7 @@ public final class DoneTest {
     }
 
     private static void lodgingBound() {
-        PalaceYard x = Check.told("y99 6 0;c100 0;d0 1 99;d0 1 99;d0 1 99;d0 1 99;d0 1 99;d0 1 99;");
+        Counted x = Check.told("y99 6 0;c100 0;d0 1 99;d0 1 99;d0 1 99;d0 1 99;d0 1 99;d0 1 99;");
         for (int d = 0; d < 6; d++) x.goIn(d);
         for (int i = 0; i < 28; i++) x.week(60);
         Check.due("10 lodging", x.told(15), 594 * 1680);
@@ -93,7 +93,7 @@ public final class DoneTest {
     }
 
     private static void goIn() {
-        PalaceYard x = Check.told(Check.TOWN);
+        Counted x = Check.told(Check.TOWN);
         Check.due("11 in", x.goIn(1), 2);
         Check.due("11 in already", x.goIn(1), NOT);
         Check.due("11 in, too", x.goIn(3), 10);
@@ -108,7 +108,7 @@ public final class DoneTest {
     }
 
     private static void goOut() {
-        PalaceYard x = Check.told(Check.TOWN);
+        Counted x = Check.told(Check.TOWN);
         Check.due("12 out already", x.goOut(1), NOT);
         x.goIn(1);
         x.goIn(0);
@@ -121,7 +121,7 @@ public final class DoneTest {
     }
 
     private static void settle() {
-        PalaceYard x = Check.told("y0 2 1;c33 1;c1 0;d0 10 4;d1 100 1;d0 999 0;d0 10 3;d0 10 9;");
+        Counted x = Check.told("y0 2 1;c33 1;c1 0;d0 10 4;d1 100 1;d0 999 0;d0 10 3;d0 10 9;");
         Check.due("13 no cash", x.settle(1), NOT);
         x.goIn(0);
         x.week(1);
@@ -141,15 +141,15 @@ public final class DoneTest {
         Check.due("13 the free are not arrested", x.told(10), 1 + 2 + 16);
     }
 
-    private static PalaceYard rich() {
-        PalaceYard x = Check.told(Check.RICH);
+    private static Counted rich() {
+        Counted x = Check.told(Check.RICH);
         for (int d = 0; d < 5; d++) x.goIn(d);
         x.week(1);
         return x;
     }
 
     private static void lend() {
-        PalaceYard x = rich();
+        Counted x = rich();
         Check.due("14 lends", x.lend(0, 1, 40), 40);
         Check.due("14 lends more", x.lend(0, 1, 20), 60);
         Check.due("14 gave", x.debtor(0, 4), 10039);
@@ -164,7 +164,7 @@ public final class DoneTest {
     }
 
     private static void lendRefused() {
-        PalaceYard x = rich();
+        Counted x = rich();
         Check.due("14 unknown", x.lend(6, 0, 1), UNKNOWN);
         Check.due("14 unknown other", x.lend(0, 6, 1), UNKNOWN);
         Check.due("14 unknown below", x.lend(-1, 0, 1), UNKNOWN);
@@ -183,7 +183,7 @@ public final class DoneTest {
     }
 
     private static void lendBounds() {
-        PalaceYard x = rich();
+        Counted x = rich();
         x.week(60);
         x.week(60);
         Check.due("14 cash", x.debtor(0, 4), 19999);
@@ -202,7 +202,7 @@ public final class DoneTest {
     }
 
     private static void sue() {
-        PalaceYard x = rich();
+        Counted x = rich();
         x.lend(0, 3, 40);
         Check.due("15 unknown", x.sue(6, 0), UNKNOWN);
         Check.due("15 unknown other", x.sue(0, 6), UNKNOWN);
@@ -222,7 +222,7 @@ public final class DoneTest {
     }
 
     private static void sueToGaol() {
-        PalaceYard x = rich();
+        Counted x = rich();
         x.lend(0, 3, 40);
         x.lend(3, 4, 15);
         Check.due("15 pays what he has", x.sue(0, 3), 25);
@@ -238,7 +238,7 @@ public final class DoneTest {
         Check.due("15 stays there", x.debtor(3, 3), 4);
         Check.due("15 goes not in", x.goIn(3), NOT);
         Check.due("15 lends not", x.lend(0, 3, 1), NOT);
-        PalaceYard poor = Check.told("y5 2 0;c100 0;d0 1 20;d0 1 5;");
+        Counted poor = Check.told("y5 2 0;c100 0;d0 1 20;d0 1 5;");
         poor.goIn(0);
         poor.goIn(1);
         poor.week(1);
@@ -249,7 +249,7 @@ public final class DoneTest {
     }
 
     private static void sueFromAnywhere() {
-        PalaceYard x = Check.told("y50 3 0;c100 0;d0 1 99;d0 1 0;d0 1 99;");
+        Counted x = Check.told("y50 3 0;c100 0;d0 1 99;d0 1 0;d0 1 99;");
         x.goIn(0);
         x.goIn(2);
         x.week(1);
@@ -265,7 +265,7 @@ public final class DoneTest {
         Check.due("15 to gaol", x.debtor(1, 3), 4);
         Check.due("15 cash stays below 0", x.debtor(1, 4), 9980);
         Check.due("15 owes all", x.owes(1, 0), 30);
-        PalaceYard full = Check.told(Check.RICH);
+        Counted full = Check.told(Check.RICH);
         full.goIn(0);
         full.goIn(3);
         full.week(1);
@@ -277,14 +277,14 @@ public final class DoneTest {
     }
 
     private static void drift() {
-        PalaceYard x = Check.told(Check.TOWN);
+        Counted x = Check.told(Check.TOWN);
         x.goIn(1);
         x.goIn(0);
         x.seed(5);
         Check.due("16 arrested", x.drift(9), 3);
         Check.due("16 weeks", x.told(7), 9);
         Check.due("16 arrested in all", x.drift(60), 3);
-        PalaceYard one = Check.told("y0 1 0;c1 0;d0 1 0;");
+        Counted one = Check.told("y0 1 0;c1 0;d0 1 0;");
         for (int v = 0; v < 20; v++) {
             seed = v;
             one.seed(v);
@@ -296,7 +296,7 @@ public final class DoneTest {
             }
             Check.due("16 draws of one debtor", one.seed(0), seed);
         }
-        PalaceYard empty = Check.told("y0 1 0;");
+        Counted empty = Check.told("y0 1 0;");
         empty.seed(9);
         Check.due("16 no debtors", empty.drift(60), 0);
         Check.due("16 no draws then", empty.seed(0), 9);
@@ -309,8 +309,8 @@ public final class DoneTest {
     private static void driftByHand() {
         int[] did = new int[5];
         for (int round = 0; round < 150; round++) {
-            PalaceYard x = Check.told(DRIFTERS);
-            PalaceYard by = Check.told(DRIFTERS);
+            Counted x = Check.told(DRIFTERS);
+            Counted by = Check.told(DRIFTERS);
             seed = 13000003L * round;
             x.seed((int) seed);
             for (int w = 0; w < 40; w++) {
@@ -320,13 +320,13 @@ public final class DoneTest {
             Check.due("16 drift", x.drift(40), by.told(14));
             Check.due("16 the seed", x.seed(0), seed);
             x.keep(1);
-            Check.same("16 by hand, round " + round, Check.allOf(x), Check.allOf(by));
+            Check.same("16 by hand, round " + round, Check.lifeOf(x), Check.lifeOf(by));
         }
         for (int what = 0; what < 5; what++) Check.due("16 was drawn and could be " + what, did[what] > 0 ? 1 : 0, 1);
     }
 
     /** A week BY DRAWS by the calls for what is done: which of them was not refused, -1 for none. */
-    private static int weekByHand(PalaceYard by) {
+    private static int weekByHand(Counted by) {
         int d = draw(5);
         int what = draw(5);
         if (what == 0) by.goIn(d);
@@ -357,7 +357,7 @@ public final class DoneTest {
     }
 
     private static void driftRefused() {
-        PalaceYard x = new PalaceYard();
+        Counted x = new Counted();
         Check.due("16 outside ahead of not", x.drift(0), OUTSIDE);
         Check.due("16 not", x.drift(1), NOT);
         x = Check.told(Check.TOWN);
@@ -371,25 +371,25 @@ public final class DoneTest {
     }
 
     private static void undo() {
-        PalaceYard x = Check.told(Check.TOWN);
+        Counted x = Check.told(Check.TOWN);
         Check.due("17 none", x.undo(), NOT);
-        String first = Check.allOf(x);
+        String first = Check.lifeOf(x);
         x.goIn(0);
-        String second = Check.allOf(x);
+        String second = Check.lifeOf(x);
         x.seed(3);
         x.drift(7);
         int seed = x.seed(3);
         x.seed(seed);
         Check.due("17 one more", x.undo(), 1);
-        Check.same("17 as ahead of it", Check.allOf(x), second);
+        Check.same("17 as ahead of it", Check.lifeOf(x), second);
         Check.due("17 the seed stays", x.seed(0), seed);
         Check.due("17 no more", x.undo(), 0);
-        Check.same("17 as at first", Check.allOf(x), first);
+        Check.same("17 as at first", Check.lifeOf(x), first);
         Check.due("17 none now", x.undo(), NOT);
     }
 
     private static void undoSixteen() {
-        PalaceYard x = Check.told("y0 1 0;c1 0;d0 1 1;");
+        Counted x = Check.told("y0 1 0;c1 0;d0 1 1;");
         for (int i = 1; i <= 16; i++) {
             x.week(1);
             Check.due("17 can be undone", x.told(20), i);
@@ -409,31 +409,35 @@ public final class DoneTest {
     }
 
     private static void undoEveryKind() {
-        PalaceYard x = Check.told("y1 3 1;c10 0;d0 90 30;d0 80 30;d0 70 30;d0 999 3;");
-        String[] before = new String[9];
         for (int i = 0; i < 9; i++) {
-            before[i] = Check.allOf(x);
-            switch (i) {
-                case 0: x.goIn(0); break;
-                case 1: x.goIn(1); break;
-                case 2: x.goIn(2); break;
-                case 3: x.week(3); break;
-                case 4: x.lend(0, 1, 20); break;
-                case 5: x.goOut(2); break;
-                case 6: x.settle(2); break;
-                case 7: x.sue(0, 1); break;
-                default: x.drift(9); break;
-            }
+            Counted x = Check.told("y1 3 1;c10 0;d0 90 30;d0 80 30;d0 70 30;d0 999 3;");
+            for (int before = 0; before < i; before++) doEveryKind(x, before);
+            String before = Check.lifeOf(x);
+            doEveryKind(x, i);
             Check.due("17 was done " + i, x.told(20), i + 1);
-        }
-        for (int i = 8; i >= 0; i--) {
             Check.due("17 undone " + i, x.undo(), i);
-            Check.same("17 as ahead of " + i, Check.allOf(x), before[i]);
+            Check.same("17 as ahead of " + i, Check.lifeOf(x), before);
+            for (int left = i - 1; left >= 0; left--) Check.due("17 the others, too", x.undo(), left);
+            Check.due("17 down to the first", x.told(7) + x.told(8), 0);
+        }
+    }
+
+    private static void doEveryKind(Counted x, int which) {
+        switch (which) {
+            case 0: x.goIn(0); break;
+            case 1: x.goIn(1); break;
+            case 2: x.goIn(2); break;
+            case 3: x.week(3); break;
+            case 4: x.lend(0, 1, 20); break;
+            case 5: x.goOut(2); break;
+            case 6: x.settle(2); break;
+            case 7: x.sue(0, 1); break;
+            default: x.drift(9); break;
         }
     }
 
     private static void refusedIsNotUndone() {
-        PalaceYard x = Check.told(Check.TOWN);
+        Counted x = Check.told(Check.TOWN);
         x.hat(7, false);
         x.write(1, 1);
         String before = Check.allOf(x);

@@ -18,7 +18,7 @@ public final class HatsTest {
     }
 
     private static void hat() {
-        PalaceYard x = new PalaceYard();
+        Counted x = new Counted();
         Check.due("25 outside", x.hat(61, true), OUTSIDE);
         Check.due("25 outside below", x.hat(-1, false), OUTSIDE);
         Check.due("25 the least", x.hat(0, true), 1);
@@ -31,7 +31,7 @@ public final class HatsTest {
     }
 
     private static void over() {
-        PalaceYard x = new PalaceYard();
+        Counted x = new Counted();
         Check.due("26 all", x.over(0), 61);
         Check.due("26 the least", x.over(1), 0);
         Check.due("26 the greatest", x.over(2), 60);
@@ -51,16 +51,16 @@ public final class HatsTest {
         Check.due("26 outside below", x.over(-1), OUTSIDE);
         x.hat(3, false);
         Check.due("26 none by far", x.over(0), 0);
-        PalaceYard top = new PalaceYard();
+        Counted top = new Counted();
         top.hat(60, true);
         Check.due("26 above the greatest", top.over(0), 0);
-        PalaceYard low = new PalaceYard();
+        Counted low = new Counted();
         low.hat(0, false);
         Check.due("26 not above the least", low.over(2), 0);
     }
 
     private static void look() {
-        PalaceYard x = new PalaceYard();
+        Counted x = new Counted();
         Check.due("27 at first", x.look(), 29);
         x.hat(29, true);
         Check.due("27 then", x.look(), 44);
@@ -75,7 +75,7 @@ public final class HatsTest {
     private static void lookEverywhere() {
         for (int low = 0; low <= 60; low++) {
             for (int high = low; high <= 60; high++) {
-                PalaceYard x = new PalaceYard();
+                Counted x = new Counted();
                 if (low > 0) x.hat(low - 1, true);
                 x.hat(high, false);
                 Check.due("27 of " + low + " to " + high, x.look(), bestLine(low, high));
@@ -99,7 +99,7 @@ public final class HatsTest {
     }
 
     private static void write() {
-        PalaceYard x = Check.told(Check.TOWN);
+        Counted x = Check.told(Check.TOWN);
         Check.due("28 unknown", x.write(4, 0), UNKNOWN);
         Check.due("28 unknown below", x.write(-1, 0), UNKNOWN);
         Check.due("28 unknown ahead of outside", x.write(4, 5), UNKNOWN);
@@ -112,7 +112,7 @@ public final class HatsTest {
     }
 
     private static void tear() {
-        PalaceYard x = Check.told(Check.TOWN);
+        Counted x = Check.told(Check.TOWN);
         Check.due("29 nothing", x.tear(), 0);
         x.hat(10, true);
         x.hat(50, false);
@@ -126,7 +126,7 @@ public final class HatsTest {
     }
 
     private static void judge() {
-        PalaceYard x = Check.told("y0 3 1;c1 0;d0 9 9;d0 8 9;d0 7 9;d0 6 0;d0 1 9;");
+        Counted x = Check.told("y0 3 1;c1 0;d0 9 9;d0 8 9;d0 7 9;d0 6 0;d0 1 9;");
         Check.due("30 empty", x.judge(), NONE);
         x.write(4, 0);
         x.write(0, 0);
@@ -163,7 +163,7 @@ public final class HatsTest {
     }
 
     private static void seed() {
-        PalaceYard x = Check.told("y0 6 0;c1 0;d0 1 0;d0 1 0;");
+        Counted x = Check.told("y0 6 0;c1 0;d0 1 0;d0 1 0;");
         Check.due("31 at first", x.seed(2147483647), 0);
         Check.due("31 outside", x.seed(-1), OUTSIDE);
         Check.due("31 outside far", x.seed(Integer.MIN_VALUE), OUTSIDE);
@@ -177,7 +177,7 @@ public final class HatsTest {
     }
 
     private static void keepAndGoBack() {
-        PalaceYard x = Check.told(Check.TOWN);
+        Counted x = Check.told(Check.TOWN);
         x.seed(11);
         x.goIn(0);
         x.goIn(3);
@@ -185,23 +185,23 @@ public final class HatsTest {
         x.lend(0, 3, 7);
         Check.due("32 keeps", x.keep(0), 1);
         Check.due("32 nothing can be undone", x.undo(), NOT);
-        String first = Check.allOf(x);
+        String first = Check.lifeOf(x);
         x.drift(3);
         int seed = x.seed(0);
         x.seed(seed);
         Check.due("32 another", x.keep(1), 1);
-        String second = Check.allOf(x);
+        String second = Check.lifeOf(x);
         x.goIn(1);
         x.week(4);
         Check.due("33 goes back", x.goBack(0), 1);
         Check.due("33 nothing can be undone", x.undo(), NOT);
-        Check.same("33 as it was", Check.allOf(x), first);
+        Check.same("33 as it was", Check.lifeOf(x), first);
         Check.due("33 the seed, too", x.seed(99), 11);
         Check.due("33 goes to the other", x.goBack(1), 1);
-        Check.same("33 as it was then", Check.allOf(x), second);
+        Check.same("33 as it was then", Check.lifeOf(x), second);
         Check.due("33 its seed", x.seed(99), seed);
         Check.due("33 once more", x.goBack(0), 1);
-        Check.same("33 the image stays", Check.allOf(x), first);
+        Check.same("33 the image stays", Check.lifeOf(x), first);
         x.week(1);
         x.keep(0);
         x.undo();
@@ -218,7 +218,7 @@ public final class HatsTest {
     }
 
     private static void imagesRefused() {
-        PalaceYard x = Check.told(Check.TOWN);
+        Counted x = Check.told(Check.TOWN);
         Check.due("32 unknown", x.keep(2), UNKNOWN);
         Check.due("32 unknown below", x.keep(-1), UNKNOWN);
         Check.due("33 unknown", x.goBack(2), UNKNOWN);
@@ -229,7 +229,7 @@ public final class HatsTest {
         x.week(1);
         Check.due("33 refused", x.goBack(1), NOT);
         Check.due("33 it can be undone still", x.undo(), 0);
-        PalaceYard none = new PalaceYard();
+        Counted none = new Counted();
         Check.due("32 without a yard", none.keep(1), 1);
         Check.due("33 without a yard", none.goBack(1), 1);
     }

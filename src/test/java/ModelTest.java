@@ -3,11 +3,10 @@ import java.util.Random;
 /** Runs of 512 calls, drawn from fixed seeds, on the class and on the model: each answer must be alike. */
 public final class ModelTest {
     private static final int RUNS = 1500;
-    private static final int CALLS = 512;
     private static final int[] FAR = {Integer.MIN_VALUE, -1000000, -2, -1, 7, 16, 61, 101, 241, 256, 10000, Integer.MAX_VALUE};
 
     private final Random random;
-    private final PalaceYard yard = new PalaceYard();
+    private final Counted yard = new Counted();
     private final Model model = new Model();
     private final String name;
     private int calls = 0;
@@ -24,7 +23,7 @@ public final class ModelTest {
 
     private void play() {
         if (random.nextInt(10) > 0) tell(text());
-        while (calls < CALLS) {
+        while (yard.callsLeft() > 0) {
             if (random.nextInt(150) == 0) tell(random.nextInt(3) == 0 ? spoilt(text()) : text());
             else if (random.nextInt(40) == 0) askAll();
             else if (random.nextInt(2) == 0) doOne(random.nextInt(11));
@@ -92,7 +91,8 @@ public final class ModelTest {
     }
 
     private void tell(String text) {
-        for (int i = 0; i < text.length() && calls < CALLS; i++) {
+        if (yard.callsLeft() < text.length() + 2) return;
+        for (int i = 0; i < text.length(); i++) {
             char letter = text.charAt(i);
             due("feed(" + (int) letter + ")", yard.feed(letter), model.feed(letter));
         }
@@ -101,6 +101,7 @@ public final class ModelTest {
     }
 
     private void askAll() {
+        if (yard.callsLeft() < 21 + 4 * yardDebtors()) return;
         for (int what = 0; what <= 20; what++) due("told(" + what + ")", yard.told(what), model.told(what));
         for (int d = 0; d < yardDebtors(); d++) {
             for (int what = 3; what <= 6; what++) due("debtor " + d + " " + what, yard.debtor(d, what), model.debtor(d, what));

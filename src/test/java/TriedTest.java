@@ -18,7 +18,7 @@ public final class TriedTest {
     }
 
     private static void soon() {
-        PalaceYard x = Check.told("y10 3 1;c100 0;c100 1;d0 200 1;d0 201 1;d1 50 1;d0 20 11;d0 1 0;");
+        Counted x = Check.told("y10 3 1;c100 0;c100 1;d0 200 1;d0 201 1;d1 50 1;d0 20 11;d0 1 0;");
         Check.due("18 the last week", x.soon(0), 200);
         Check.due("18 a week too late", x.soon(1), NONE);
         Check.due("18 it becomes less", x.soon(2), 34);
@@ -31,13 +31,13 @@ public final class TriedTest {
         x.week(20);
         Check.due("18 now", x.soon(3), 0);
         Check.due("18 weeks count from the first", x.soon(0), NOT);
-        PalaceYard late = Check.told("y0 1 0;c100 5;d0 100 10;");
+        Counted late = Check.told("y0 1 0;c100 5;d0 100 10;");
         late.week(5);
         Check.due("18 from now", late.soon(0), 2);
     }
 
     private static void soonRefused() {
-        PalaceYard x = Check.told(Check.TOWN);
+        Counted x = Check.told(Check.TOWN);
         Check.due("18 unknown", x.soon(4), UNKNOWN);
         Check.due("18 unknown below", x.soon(-1), UNKNOWN);
         Check.due("19 unknown", x.cheapest(4, 0), UNKNOWN);
@@ -52,7 +52,7 @@ public final class TriedTest {
         x.week(1);
         x.week(1);
         Check.due("18 in gaol, too", x.soon(0), NOT);
-        PalaceYard free = Check.told("y0 1 0;c1 0;d0 1 1;");
+        Counted free = Check.told("y0 1 0;c1 0;d0 1 1;");
         free.week(1);
         free.settle(0);
         Check.due("18 free", free.soon(0), NOT);
@@ -60,7 +60,7 @@ public final class TriedTest {
     }
 
     private static void cheapest() {
-        PalaceYard x = Check.told("y10 3 0;c100 10;c100 1;c50 0;d0 100 40;d1 60 1;d2 200 99;d2 122 1;d2 120 1;d0 200 20;");
+        Counted x = Check.told("y10 3 0;c100 10;c100 1;c50 0;d0 100 40;d1 60 1;d2 200 99;d2 122 1;d2 120 1;d0 200 20;");
         Check.due("19 out: waits till the least", x.cheapest(0, 0), 10);
         Check.due("19 out: the least", x.cheapest(0, 1), 5);
         Check.due("19 no sooner than he can", x.cheapest(1, 0), 60);
@@ -81,13 +81,13 @@ public final class TriedTest {
     }
 
     private static void outing() {
-        PalaceYard x = Check.told(Check.TOWN);
+        Counted x = Check.told(Check.TOWN);
         int[][] due = {{0, 0, 0, 0}, {9, 0, 0, 0}, {10, 7, 10, 2}, {13, 7, 10, 2}, {14, 10, 14, 1}, {15, 10, 14, 1},
             {16, 18, 16, 142}, {39, 18, 16, 142}, {40, 68, 40, 1342}, {99, 68, 40, 1342}};
         for (int[] row : due) {
             for (int what = 0; what <= 2; what++) Check.due("20 " + row[0] + ", " + what, x.outing(row[0], what), row[1 + what]);
         }
-        PalaceYard gate = Check.told("y0 1 0;p0 0 7;p0 1 1;");
+        Counted gate = Check.told("y0 1 0;p0 0 7;p0 1 1;");
         Check.due("20 at the gate", gate.outing(0, 0), 7);
         Check.due("20 no steps", gate.outing(0, 1), 0);
         Check.due("20 the place", gate.outing(0, 2), 1);
@@ -96,30 +96,30 @@ public final class TriedTest {
     }
 
     private static void outingTies() {
-        PalaceYard worth = Check.told("y0 1 0;p2 0 5;p0 2 5;p1 0 5;p9 9 0;");
+        Counted worth = Check.told("y0 1 0;p2 0 5;p0 2 5;p1 0 5;p9 9 0;");
         Check.due("20 of like worth fewest steps", worth.outing(3, 2), 3);
         Check.due("20 both on one line", worth.outing(4, 2), 13);
-        PalaceYard none = Check.told("y0 1 0;p1 0 0;p0 0 0;p3 0 4;");
+        Counted none = Check.told("y0 1 0;p1 0 0;p0 0 0;p3 0 4;");
         Check.due("20 nothing of no worth", none.outing(99, 2), 3);
         Check.due("20 nothing at all", none.outing(5, 2), 0);
-        PalaceYard round = Check.told("y0 1 0;p1 1 1;p1 0 1;p0 1 1;");
+        Counted round = Check.told("y0 1 0;p1 1 1;p1 0 1;p0 1 1;");
         Check.due("20 of like ones the first", round.outing(99, 2), 213);
-        PalaceYard six = Check.told("y0 1 0;p1 0 1;p2 0 1;p3 0 1;p4 0 1;p5 0 1;p6 0 1;");
+        Counted six = Check.told("y0 1 0;p1 0 1;p2 0 1;p3 0 1;p4 0 1;p5 0 1;p6 0 1;");
         Check.due("20 six", six.outing(12, 2), 123456);
         Check.due("20 five", six.outing(11, 2), 12345);
     }
 
     private static void outingRefused() {
-        PalaceYard x = Check.told(Check.TOWN);
+        Counted x = Check.told(Check.TOWN);
         Check.due("20 outside", x.outing(100, 0), OUTSIDE);
         Check.due("20 outside below", x.outing(-1, 0), OUTSIDE);
         Check.due("20 what outside", x.outing(0, 3), OUTSIDE);
         Check.due("20 what outside below", x.outing(0, -1), OUTSIDE);
-        Check.due("20 no yard", new PalaceYard().outing(99, 1), 0);
+        Check.due("20 no yard", new Counted().outing(99, 1), 0);
     }
 
     private static void composition() {
-        PalaceYard x = Check.told("y0 1 0;c80 10;c40 0;c20 0;d0 100 99;d1 60 0;d2 40 0;");
+        Counted x = Check.told("y0 1 0;c80 10;c40 0;c20 0;d0 100 99;d1 60 0;d2 40 0;");
         Check.due("21 none", x.composition(19, 0), 0);
         Check.due("21 none binds", x.composition(19, 1), 0);
         Check.due("21 one", x.composition(20, 0), 4);
@@ -136,7 +136,7 @@ public final class TriedTest {
         Check.due("21 the free count no more", x.composition(20, 1), 0);
         Check.due("21 of those who are left", x.composition(40, 1), 1);
         Check.due("21 his creditor stays", x.composition(40, 0), 7);
-        PalaceYard free = Check.told("y0 1 0;c10 0;c90 0;d0 60 0;d1 100 99;");
+        Counted free = Check.told("y0 1 0;c10 0;c90 0;d0 60 0;d1 100 99;");
         Check.due("21 too few", free.composition(10, 1), 0);
         free.week(1);
         free.settle(1);
@@ -145,13 +145,13 @@ public final class TriedTest {
         Check.due("21 outside below", x.composition(-1, 0), OUTSIDE);
         Check.due("21 what outside", x.composition(0, 2), OUTSIDE);
         Check.due("21 what outside below", x.composition(0, -1), OUTSIDE);
-        PalaceYard gaol = Check.told("y0 1 1;c10 0;c20 0;d0 50 0;d1 49 0;");
+        Counted gaol = Check.told("y0 1 1;c10 0;c20 0;d0 50 0;d1 49 0;");
         gaol.week(1);
         Check.due("21 who is in gaol counts", gaol.composition(10, 1), 1);
     }
 
     private static void year() {
-        PalaceYard x = Check.told("y10 2 1;c100 0;d0 1 30;d0 2 5;d0 3 10;d0 1 99;");
+        Counted x = Check.told("y10 2 1;c100 0;d0 1 30;d0 2 5;d0 3 10;d0 1 99;");
         Check.due("22 no week", x.year(0, 0), 10000);
         Check.due("22 a week", x.year(0, 1), 10020);
         Check.due("22 the most", x.year(0, 60), 11200);
@@ -167,7 +167,7 @@ public final class TriedTest {
     }
 
     private static void chain() {
-        PalaceYard x = Check.told(Check.RICH);
+        Counted x = Check.told(Check.RICH);
         for (int d = 0; d < 6; d++) x.goIn(d);
         x.week(10);
         x.lend(5, 4, 1);
@@ -203,7 +203,7 @@ public final class TriedTest {
     }
 
     private static void quiet() {
-        PalaceYard x = new PalaceYard();
+        Counted x = new Counted();
         Check.due("24 no week", x.quiet(0, 50), 1000000000);
         Check.due("24 no lure", x.quiet(60, 0), 1000000000);
         Check.due("24 always", x.quiet(1, 100), 0);
@@ -219,7 +219,7 @@ public final class TriedTest {
     }
 
     private static void nothingChanges() {
-        PalaceYard x = Check.told(Check.TOWN);
+        Counted x = Check.told(Check.TOWN);
         x.goIn(0);
         x.goIn(3);
         x.week(1);

@@ -26,7 +26,7 @@ public final class YardTest {
     }
 
     private static void newObject() {
-        PalaceYard x = new PalaceYard();
+        Counted x = new Counted();
         for (int what = 0; what <= 20; what++) Check.due("1 told " + what, x.told(what), 0);
         Check.due("1 fault", x.fault(), NONE);
         Check.due("1 debtor", x.debtor(0, 0), UNKNOWN);
@@ -46,7 +46,7 @@ public final class YardTest {
     }
 
     private static void feed() {
-        PalaceYard x = new PalaceYard();
+        Counted x = new Counted();
         Check.due("2 below", x.feed(-1), OUTSIDE);
         Check.due("2 above", x.feed(256), OUTSIDE);
         Check.due("2 the least", x.feed(0), 1);
@@ -58,7 +58,7 @@ public final class YardTest {
     }
 
     private static void text(String text, int answer, int fault) {
-        PalaceYard x = new PalaceYard();
+        Counted x = new Counted();
         Check.feed(x, text);
         Check.due("3 [" + text + "]", x.yard(), answer);
         Check.due("4 [" + text + "]", x.fault(), fault);
@@ -151,7 +151,7 @@ public final class YardTest {
     }
 
     private static void yardBeginsAnew() {
-        PalaceYard x = Check.told(Check.TOWN);
+        Counted x = Check.told(Check.TOWN);
         x.goIn(0);
         x.goIn(3);
         x.week(1);
@@ -172,7 +172,7 @@ public final class YardTest {
     }
 
     private static void faultyYardChangesNothing() {
-        PalaceYard x = Check.told(Check.TOWN);
+        Counted x = Check.told(Check.TOWN);
         x.goIn(0);
         x.goIn(3);
         x.keep(1);
@@ -184,8 +184,7 @@ public final class YardTest {
         Check.feed(x, "y1 1 1;c1 1;p");
         Check.due("3 faulty", x.yard(), -11);
         Check.due("4 faulty", x.fault(), 13);
-        String behind = Check.allOf(x);
-        Check.same("3 all else is as it was", behind.substring(0, behind.length() - 2), before.substring(0, before.length() - 2));
+        Check.same("3 all else is as it was", Check.allOf(x), before);
         Check.due("3 what can be undone stays", x.told(20), 2);
         Check.due("3 undo stays", x.undo(), 1);
         Check.due("3 the image stays", x.goBack(1), 1);
@@ -195,20 +194,20 @@ public final class YardTest {
     }
 
     private static void emptyYardEndsTheYard() {
-        PalaceYard x = Check.told(Check.TOWN);
+        Counted x = Check.told(Check.TOWN);
         x.goIn(0);
         x.week(2);
         x.hat(1, true);
         x.keep(0);
         Check.due("3 empty", x.yard(), 0);
-        Check.same("3 no yard", Check.allOf(x), Check.allOf(new PalaceYard()));
+        Check.same("3 no yard", Check.allOf(x), Check.allOf(new Counted()));
         Check.due("3 no weeks", x.week(1), NOT);
         Check.due("3 no image", x.goBack(0), NOT);
         Check.due("3 no debtor", x.goIn(0), UNKNOWN);
     }
 
     private static void told() {
-        PalaceYard x = Check.told(Check.TOWN);
+        Counted x = Check.told(Check.TOWN);
         int[] first = {10, 2, 1, 2, 4, 4, 0, 0, 0, 15, 0, 0, 4, 0, 0, 0, 12, 0, 0, 0, 0};
         for (int what = 0; what <= 20; what++) Check.due("5 first " + what, x.told(what), first[what]);
         Check.due("5 below", x.told(-1), OUTSIDE);
@@ -226,7 +225,7 @@ public final class YardTest {
     }
 
     private static void toldSets() {
-        PalaceYard x = Check.told("y9 3 2;c100 0;d0 10 20;d0 20 8;d0 20 20;d0 5 9;d0 20 0;d0 1 40;");
+        Counted x = Check.told("y9 3 2;c100 0;d0 10 20;d0 20 8;d0 20 20;d0 5 9;d0 20 0;d0 1 40;");
         Check.due("5 next, of like ones the least", x.told(12), 2 + 4);
         Check.due("5 price behind 3", x.told(16), 9);
         x.goIn(0);
@@ -253,7 +252,7 @@ public final class YardTest {
     }
 
     private static void chainedDebts() {
-        PalaceYard x = Check.told(Check.RICH);
+        Counted x = Check.told(Check.RICH);
         for (int d = 0; d < 6; d++) x.goIn(d);
         x.week(2);
         x.lend(0, 1, 50);
@@ -267,7 +266,7 @@ public final class YardTest {
     }
 
     private static void accepts() {
-        PalaceYard x = Check.told("y0 1 0;c80 10;c4 1;c100 0;c5 20;");
+        Counted x = Check.told("y0 1 0;c80 10;c4 1;c100 0;c5 20;");
         Check.due("6 at first", x.accepts(0, 0), 80);
         Check.due("6 later", x.accepts(0, 7), 10);
         Check.due("6 5 at least", x.accepts(0, 8), 5);
@@ -284,7 +283,7 @@ public final class YardTest {
     }
 
     private static void debtor() {
-        PalaceYard x = Check.told(Check.TOWN);
+        Counted x = Check.told(Check.TOWN);
         int[] first = {1, 300, 12, 0, 10000, 12, 10000};
         for (int what = 0; what <= 6; what++) Check.due("7 debtor 2 " + what, x.debtor(2, what), first[what]);
         Check.due("7 outside", x.debtor(0, 7), OUTSIDE);
@@ -292,7 +291,7 @@ public final class YardTest {
         Check.due("7 unknown", x.debtor(4, 0), UNKNOWN);
         Check.due("7 unknown below", x.debtor(-1, 0), UNKNOWN);
         Check.due("7 unknown ahead of outside", x.debtor(4, 7), UNKNOWN);
-        PalaceYard cut = Check.told("y0 1 0;c33 1;c1 0;d0 10 0;d1 1 0;d1 999 0;d0 100 0;");
+        Counted cut = Check.told("y0 1 0;c33 1;c1 0;d0 10 0;d1 1 0;d1 999 0;d0 100 0;");
         Check.due("7 cost, 1 more if not whole", cut.debtor(0, 5), 4);
         Check.due("7 cost at least 1", cut.debtor(1, 5), 1);
         Check.due("7 cost just below whole", cut.debtor(2, 5), 10);
@@ -302,7 +301,7 @@ public final class YardTest {
     }
 
     private static void owes() {
-        PalaceYard x = Check.told(Check.RICH);
+        Counted x = Check.told(Check.RICH);
         x.goIn(0);
         x.goIn(1);
         x.week(1);
@@ -318,7 +317,7 @@ public final class YardTest {
     }
 
     private static void place() {
-        PalaceYard x = Check.told(Check.TOWN);
+        Counted x = Check.told(Check.TOWN);
         Check.due("9 x", x.place(0, 0), 3);
         Check.due("9 y", x.place(0, 1), 4);
         Check.due("9 worth", x.place(0, 2), 10);
