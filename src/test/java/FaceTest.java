@@ -91,15 +91,32 @@ public final class FaceTest {
         all.add(PalaceYard.class);
         for (Class<?> one : all) {
             int fields = 0;
-            for (Field field : one.getDeclaredFields()) if (!Modifier.isStatic(field.getModifiers())) fields++;
+            for (Field field : one.getDeclaredFields()) {
+                if (Modifier.isStatic(field.getModifiers())) constant(field);
+                else fields++;
+            }
             Check.due(one + " has some twenty fields: " + fields, fields <= 20 ? 1 : 0, 1);
             for (Method method : one.getDeclaredMethods()) {
                 Check.due(method + " takes seven at most", method.getParameterCount() <= 7 ? 1 : 0, 1);
+                if (one != PalaceYard.class) Check.due(method + " has a name of its own", isOfTheFace(method.getName()) ? 1 : 0, 0);
             }
             if (one == PalaceYard.class) continue;
             Check.due(one + " is static", Modifier.isStatic(one.getModifiers()) ? 1 : 0, 1);
             Check.due(one + " is not public", Modifier.isPublic(one.getModifiers()) ? 1 : 0, 0);
         }
+    }
+
+    private static void constant(Field field) {
+        Check.due(field + " is final", Modifier.isFinal(field.getModifiers()) ? 1 : 0, 1);
+        Class<?> type = field.getType();
+        boolean plain = type == int.class || type == long.class || type == boolean.class || type == char.class || type == String.class;
+        boolean row = type == int[].class || type == long[].class || type == char[].class || type == byte[].class;
+        Check.due(field + " is of a type that a constant may have", plain || row ? 1 : 0, 1);
+    }
+
+    private static boolean isOfTheFace(String name) {
+        for (String method : FACE) if (method.startsWith(name + "(")) return true;
+        return false;
     }
 
     /** The source without comments and what stands in quotes. */
