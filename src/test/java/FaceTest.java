@@ -16,6 +16,7 @@ import java.util.regex.Pattern;
 /** The public face of the document, and what of LANGUAGE.md can be seen by a plain look. */
 public final class FaceTest {
     private static final Path SOURCE = Path.of("src/main/java/PalaceYard.java");
+    private static final Path DOCUMENT = Path.of("../shared/DOC.md");
 
     private static final String[] FACE = {
         "accepts(int,int)", "chain(int,int)", "cheapest(int,int)", "composition(int,int)", "debtor(int,int)", "drift(int)",
@@ -34,6 +35,8 @@ public final class FaceTest {
         constants();
         face();
         classesInside();
+        asTheDocumentWritesIt(Files.readString(DOCUMENT), Files.readString(SOURCE));
+        asTheInterfaceSays(Files.readString(DOCUMENT), Files.readString(SOURCE));
         String code = bare(Files.readString(SOURCE));
         for (String pattern : FORBIDDEN) {
             Matcher found = Pattern.compile(pattern, Pattern.MULTILINE).matcher(code);
@@ -55,6 +58,40 @@ public final class FaceTest {
             if (Modifier.isStatic(field.getModifiers())) Check.due(field + " is final", Modifier.isFinal(field.getModifiers()) ? 1 : 0, 1);
         }
         Check.same("constants", seen.toString(), "[FULL, NONE, NOT, OUTSIDE, UNKNOWN]");
+    }
+
+    /** Every public line, with its names, in the document's order. */
+    private static void asTheDocumentWritesIt(String document, String source) {
+        Matcher block = Pattern.compile("```java\n(.*?)```", Pattern.DOTALL).matcher(document);
+        Check.due("the document has a face", block.find() ? 1 : 0, 1);
+        List<String> due = publicLines(block.group(1));
+        Check.due("a class, its constants, a constructor, 32 methods", due.size(), 35);
+        Check.same("the face as it is written", String.join("\n", publicLines(source)), String.join("\n", due));
+    }
+
+    private static List<String> publicLines(String code) {
+        List<String> lines = new ArrayList<>();
+        Matcher line = Pattern.compile("^ *(public [^;{]*)[;{]", Pattern.MULTILINE).matcher(code);
+        while (line.find()) lines.add(line.group(1).trim());
+        return lines;
+    }
+
+    /** "Ahead of the calls .. the interface says: ---- .." */
+    private static void asTheInterfaceSays(String document, String source) {
+        Matcher says = Pattern.compile("Ahead of the calls (.*) the interface says: (---- .*)\\.").matcher(document);
+        int parts = 0;
+        while (says.find()) {
+            parts++;
+            int from = source.indexOf("// " + says.group(2) + "\n");
+            int to = source.indexOf("// ----", from + 1);
+            Check.due("says " + says.group(2), from >= 0 && to > from ? 1 : 0, 1);
+            if (from < 0 || to < from) continue;
+            List<String> calls = new ArrayList<>();
+            Matcher call = Pattern.compile("public int (\\w+)\\(").matcher(source.substring(from, to));
+            while (call.find()) calls.add(call.group(1));
+            Check.same(says.group(2), String.join(", ", calls), says.group(1).replace("`", ""));
+        }
+        Check.due("parts of the interface", parts, 5);
     }
 
     private static String form(Method method) {

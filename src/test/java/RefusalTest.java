@@ -17,6 +17,7 @@ public final class RefusalTest {
     public static void main(String[] args) {
         Check.sentence("REFUSALS, of several the first in this order: UNKNOWN (a CREDITOR, DEBTOR, PLACE, IMAGE that there is not; "
                 + "bits of such; one twice, where two are asked), OUTSIDE (another number out of its bounds), NOT (not now, as told), FULL.");
+        Check.sentence("What is refused changes nothing.");
         theWorldsAreAsTold();
         ofTheYard();
         ofWeeks();
